@@ -14,6 +14,7 @@ public final class ForestHouse {
     private static final int MAX_PRODUCTIONS = 24;
     private static final int MAX_ITEMS = 3;
     private static final int MAX_ROW = 24;
+    private static final int PLACES = MAX_ROW + 1;
     private static final int MAX_COST = 1000;
     private static final int MAX_NUMBER = 999999;
     private static final int MANY = 1000000000;
@@ -336,6 +337,10 @@ public final class ForestHouse {
         private final Row row;
         private final int[] counts = new int[SYMBOLS * MAX_ROW * MAX_ROW];
         private final int[] costs = new int[SYMBOLS * MAX_ROW * MAX_ROW];
+        // The same for a production's items behind its first one, from each place on to the end of
+        // the column that is being filled: all parts that end there share them.
+        private final int[] restCounts = new int[MAX_PRODUCTIONS * PLACES];
+        private final int[] restCosts = new int[MAX_PRODUCTIONS * PLACES];
         // Only parts that end here or before are counted: a token more leaves them as they are.
         private int filled = 0;
 
@@ -350,11 +355,17 @@ public final class ForestHouse {
 
         void fill(int to) {
             for (int end = filled + 1; end <= to; end++) {
-                for (int from = end - 1; from >= 0; from--) {
-                    fillPart(from, end);
-                }
+                fillColumn(end);
             }
             filled = Math.max(filled, to);
+        }
+
+        private void fillColumn(int end) {
+            fillRests(end, end);
+            for (int from = end - 1; from >= 0; from--) {
+                fillPart(from, end);
+                fillRests(from, end);
+            }
         }
 
         private void fillPart(int from, int to) {
@@ -367,50 +378,54 @@ public final class ForestHouse {
         }
 
         private void addProduction(int p, int from, int to) {
-            int lastFirst = grammar.lastFirstEnd(p, to);
-            int lastSecond = grammar.lastSecondEnd(p, to);
-            for (int first = grammar.leastFirstEnd(p, from, to); first <= lastFirst; first++) {
-                if (trees(grammar.item(p, 0), from, first) > 0) {
-                    int least = grammar.leastSecondEnd(p, first, to);
-                    for (int second = least; second <= lastSecond; second++) {
-                        addSplit(p, from, first, second, to);
-                    }
+            int head = grammar.head(p);
+            int item = grammar.item(p, 0);
+            int number = trees(head, from, to);
+            int cheapest = leastCost(head, from, to);
+            int last = grammar.lastFirstEnd(p, to);
+            for (int first = grammar.leastFirstEnd(p, from, to); first <= last; first++) {
+                int at = restCell(p, first);
+                int rests = at >= 0 && at < restCounts.length ? restCounts[at] : 0;
+                int firsts = rests > 0 ? trees(item, from, first) : 0;
+                if (firsts > 0 && at >= 0 && at < restCosts.length) {
+                    int cost = grammar.ownCost(p) + leastCost(item, from, first) + restCosts[at];
+                    number = atMostMany(number + (long) firsts * rests);
+                    cheapest = cheaper(cheapest, cost);
                 }
             }
+            write(head, from, to, number, cheapest);
         }
 
-        private void addSplit(int p, int from, int first, int second, int to) {
-            int more = splitTrees(p, from, first, second, to);
-            if (more == 0) {
-                return;
+        private void fillRests(int from, int to) {
+            for (int p = 0; p < grammar.size(); p++) {
+                fillRest(p, from, to);
             }
-            int symbol = grammar.head(p);
-            int known = trees(symbol, from, to);
-            int cheapest = splitCost(p, from, first, second, to);
-            if (known > 0) {
-                cheapest = Math.min(cheapest, leastCost(symbol, from, to));
-            }
-            write(symbol, from, to, atMostMany((long) known + more), cheapest);
         }
 
-        /** How many trees begin with this production and these parts of its items. */
-        int splitTrees(int p, int from, int first, int second, int to) {
-            long number = trees(grammar.item(p, 0), from, first);
-            if (number > 0) {
-                number = atMostMany(number * trees(grammar.item(p, 1), first, second));
+        private void fillRest(int p, int from, int to) {
+            int item = grammar.item(p, 1);
+            int lastItem = grammar.item(p, 2);
+            int number = 0;
+            int cheapest = NONE;
+            int last = grammar.lastSecondEnd(p, to);
+            for (int second = grammar.leastSecondEnd(p, from, to); second <= last; second++) {
+                int seconds = trees(item, from, second);
+                int thirds = seconds > 0 ? trees(lastItem, second, to) : 0;
+                if (thirds > 0) {
+                    int cost = leastCost(item, from, second) + leastCost(lastItem, second, to);
+                    number = atMostMany(number + (long) seconds * thirds);
+                    cheapest = cheaper(cheapest, cost);
+                }
             }
-            if (number > 0) {
-                number = number * trees(grammar.item(p, 2), second, to);
+            int at = restCell(p, from);
+            if (at >= 0 && at < restCounts.length && at < restCosts.length) {
+                restCounts[at] = number;
+                restCosts[at] = cheapest;
             }
-            return atMostMany(number);
         }
 
-        /** The least cost of these trees, if there are any. */
-        int splitCost(int p, int from, int first, int second, int to) {
-            return grammar.ownCost(p)
-                    + leastCost(grammar.item(p, 0), from, first)
-                    + leastCost(grammar.item(p, 1), first, second)
-                    + leastCost(grammar.item(p, 2), second, to);
+        private static int cheaper(int known, int cost) {
+            return known == NONE ? cost : Math.min(known, cost);
         }
 
         /** An item that is a token counts as one tree over it, NONE as one over an empty part. */
@@ -447,6 +462,11 @@ public final class ForestHouse {
                 return NONE;
             }
             return (symbol * MAX_ROW + from) * MAX_ROW + to - 1;
+        }
+
+        private static int restCell(int p, int place) {
+            boolean known = p >= 0 && p < MAX_PRODUCTIONS && place >= 0 && place < PLACES;
+            return known ? p * PLACES + place : NONE;
         }
     }
 
@@ -511,7 +531,7 @@ public final class ForestHouse {
         void find(int symbol, int from, int to, int k, Tree found) {
             found.forget();
             waiting = 0;
-            await(symbol, from, to, k, 0);
+            pileUp(symbol, from, to, k, 0);
             for (int done = 0; done < MAX_NODES && waiting > 0; done++) {
                 int top = Math.min(waiting, MAX_ROW) - 1;
                 waiting = top;
@@ -523,12 +543,12 @@ public final class ForestHouse {
                 int p = findProduction(symbols[top]);
                 if (p != NONE) {
                     found.grow(p, begin, end, depth);
-                    awaitItems(p, depth + 1);
+                    pileUpItems(p, depth + 1);
                 }
             }
         }
 
-        private void await(int item, int from, int to, int k, int depth) {
+        private void pileUp(int item, int from, int to, int k, int depth) {
             if (isSymbol(item) && waiting >= 0 && waiting < MAX_ROW) {
                 symbols[waiting] = item;
                 froms[waiting] = from;
@@ -566,9 +586,9 @@ public final class ForestHouse {
 
         /** Whether the tree is one of those with these parts; if not, its number leaves them out. */
         private boolean isWithin(int p, int first, int second) {
-            int trees = chart.splitTrees(p, begin, first, second, end);
+            int trees = splitTrees(p, first, second);
             if (number == NONE) {
-                return trees > 0 && chart.splitCost(p, begin, first, second, end) == least;
+                return trees > 0 && splitCost(p, first, second) == least;
             }
             if (number < trees) {
                 return true;
@@ -577,11 +597,31 @@ public final class ForestHouse {
             return false;
         }
 
+        /** How many trees begin with this production and these ends of its items' parts. */
+        private int splitTrees(int p, int first, int second) {
+            long trees = chart.trees(grammar.item(p, 0), begin, first);
+            if (trees > 0) {
+                trees = atMostMany(trees * chart.trees(grammar.item(p, 1), first, second));
+            }
+            if (trees > 0) {
+                trees = trees * chart.trees(grammar.item(p, 2), second, end);
+            }
+            return atMostMany(trees);
+        }
+
+        /** The least cost of these trees, if there are any. */
+        private int splitCost(int p, int first, int second) {
+            return grammar.ownCost(p)
+                    + chart.leastCost(grammar.item(p, 0), begin, first)
+                    + chart.leastCost(grammar.item(p, 1), first, second)
+                    + chart.leastCost(grammar.item(p, 2), second, end);
+        }
+
         /**
          * The last item's tree changes first as the number grows. The first item is piled up last,
          * for its nodes come first.
          */
-        private void awaitItems(int p, int depth) {
+        private void pileUpItems(int p, int depth) {
             int seconds = chart.trees(grammar.item(p, 1), firstEnd, secondEnd);
             int thirds = chart.trees(grammar.item(p, 2), secondEnd, end);
             int first = NONE;
@@ -592,9 +632,9 @@ public final class ForestHouse {
                 second = number / thirds % seconds;
                 first = number / thirds / seconds;
             }
-            await(grammar.item(p, 2), secondEnd, end, third, depth);
-            await(grammar.item(p, 1), firstEnd, secondEnd, second, depth);
-            await(grammar.item(p, 0), begin, firstEnd, first, depth);
+            pileUp(grammar.item(p, 2), secondEnd, end, third, depth);
+            pileUp(grammar.item(p, 1), firstEnd, secondEnd, second, depth);
+            pileUp(grammar.item(p, 0), begin, firstEnd, first, depth);
         }
     }
 
@@ -605,7 +645,7 @@ public final class ForestHouse {
     private static final class Outlook {
         private final Grammar grammar;
         private final Chart chart;
-        private final int[] nexts = new int[(MAX_ROW + 1) * SYMBOLS];
+        private final int[] nexts = new int[PLACES * SYMBOLS];
         private int end = 0;
 
         Outlook(Grammar grammar, Chart chart) {
@@ -632,17 +672,23 @@ public final class ForestHouse {
                 }
             }
             // A token wanders from a first item to its head in each round, over ten symbols at most.
-            for (int round = 0; round < SYMBOLS; round++) {
-                addFirstItems(from);
+            boolean more = true;
+            for (int round = 0; round < SYMBOLS && more; round++) {
+                more = addFirstItems(from);
             }
         }
 
-        private void addFirstItems(int from) {
+        /** Whether a symbol has got a token more. */
+        private boolean addFirstItems(int from) {
+            boolean more = false;
             for (int p = 0; p < grammar.size(); p++) {
-                if (grammar.isUsable(p)) {
-                    addTo(grammar.head(p), from, itemNexts(grammar.item(p, 0), from));
+                int tokens = itemNexts(grammar.item(p, 0), from);
+                if ((tokens & ~itemNexts(grammar.head(p), from)) != 0 && grammar.isUsable(p)) {
+                    addTo(grammar.head(p), from, tokens);
+                    more = true;
                 }
             }
+            return more;
         }
 
         /** Those that come next if the production's first item, or two, end before. */
@@ -687,7 +733,7 @@ public final class ForestHouse {
         }
 
         private static int cell(int symbol, int from) {
-            boolean known = symbol >= 0 && symbol < SYMBOLS && from >= 0 && from <= MAX_ROW;
+            boolean known = symbol >= 0 && symbol < SYMBOLS && from >= 0 && from < PLACES;
             return known ? from * SYMBOLS + symbol : NONE;
         }
     }

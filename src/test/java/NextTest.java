@@ -98,6 +98,7 @@ final class NextTest {
     private void chain() {
         for (int way = 0; way < 2; way++) {
             ForestHouse x = with(0);
+            x.production(0, 0, 13, -1, 0);
             for (int i = 0; i < 9; i++) {
                 int head = way == 0 ? i : 8 - i;
                 x.production(head, head + 1, i % 2 == 0 ? -1 : 11, -1, 0);
@@ -106,6 +107,13 @@ final class NextTest {
             x.production(9, 10, 12, -1, 0);
             check.due("up the chain", 1, () -> x.next(0));
             check.due("up the chain, one further", 1 << 2, () -> x.next(1));
+            x.put(2);
+            for (int i = 0; i < 4; i++) {
+                int m = 2 + i;
+                check.due("on the way up", 1 << 1, () -> x.next(m));
+                x.put(1);
+            }
+            check.due("at its top, which is an item too", 1024 | 1 << 3, () -> x.next(6));
         }
     }
 
