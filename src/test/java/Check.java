@@ -5,8 +5,14 @@ final class Check {
         long answer();
     }
 
+    /** A call that may throw, of whichever object. */
+    interface On {
+        long answer(ForestHouse x);
+    }
+
     private int wrong = 0;
     private int made = 0;
+    private String about = "";
 
     /** The answer as a text, or the exact name of the exception's class. */
     static String told(Call call) {
@@ -15,6 +21,11 @@ final class Check {
         } catch (RuntimeException e) {
             return "throws " + e.getClass().getName();
         }
+    }
+
+    /** What the answers from here on are about: it is printed before each wrong one. */
+    void about(String what) {
+        about = what + ": ";
     }
 
     void due(String what, long want, Call call) {
@@ -30,9 +41,13 @@ final class Check {
         if (!want.equals(got)) {
             wrong++;
             if (wrong <= 20) {
-                System.out.println(what + " answered " + got + ", due is " + want);
+                System.out.println(about + what + " answered " + got + ", due is " + want);
             }
         }
+    }
+
+    int made() {
+        return made;
     }
 
     boolean anyWrong() {

@@ -19,17 +19,7 @@ final class CostTest {
         check.due("no production", -1, () -> x.cost(7, 0, 5));
         check.due("a step for nothing", 13, () -> x.cost(2, 0, 5));
         check.due("dear alone", 30, () -> x.cost(1, 2, 5));
-        int[] edges = {Integer.MIN_VALUE, -1, 0, 1, 4, 5, 6, 9, 10, 24, 25, Integer.MAX_VALUE};
-        for (int symbol : edges) {
-            for (int from : edges) {
-                for (int to : edges) {
-                    if (symbol < 0 || symbol > 9 || from < 0 || from >= to || to > 5) {
-                        check.dueThrow("cost(" + symbol + ", " + from + ", " + to + ")",
-                                IndexOutOfBoundsException.class, () -> x.cost(symbol, from, to));
-                    }
-                }
-            }
-        }
+        bounds(check);
         x.clear();
         for (int i = 0; i < 9; i++) {
             x.production(i, i + 1, -1, -1, 1000);
@@ -47,5 +37,20 @@ final class CostTest {
         x.put(0);
         check.due("for nothing", 0, () -> x.cost(0, 0, 2));
         check.end();
+    }
+
+    private static void bounds(Check check) {
+        int[] edges = {Integer.MIN_VALUE, -1, 0, 1, 4, 5, 6, 9, 10, 24, 25, Integer.MAX_VALUE};
+        for (int symbol : edges) {
+            ForestHouse x = Make.row(0, 0, 0, 0, 0);
+            for (int from : edges) {
+                for (int to : edges) {
+                    if (symbol < 0 || symbol > 9 || from < 0 || from >= to || to > 5) {
+                        check.dueThrow("cost(" + symbol + ", " + from + ", " + to + ")",
+                                IndexOutOfBoundsException.class, () -> x.cost(symbol, from, to));
+                    }
+                }
+            }
+        }
     }
 }

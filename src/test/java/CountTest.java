@@ -13,12 +13,9 @@ final class CountTest {
     }
 
     private void bounds() {
-        ForestHouse x = new ForestHouse();
-        for (int i = 0; i < 5; i++) {
-            x.put(0);
-        }
         int[] edges = {Integer.MIN_VALUE, -1, 0, 1, 2, 4, 5, 6, 9, 10, 24, 25, Integer.MAX_VALUE};
         for (int symbol : edges) {
+            ForestHouse x = Make.row(0, 0, 0, 0, 0);
             for (int from : edges) {
                 for (int to : edges) {
                     boolean good = symbol >= 0 && symbol <= 9 && from >= 0 && from < to && to <= 5;

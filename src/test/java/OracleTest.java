@@ -1,6 +1,6 @@
 import java.util.Random;
 
-/** Long runs of calls, each answer beside that of the Oracle. Promises 1 to 10. */
+/** Runs of up to 512 calls, each answer beside that of the Oracle. Promises 1 to 10. */
 final class OracleTest {
     private static final int[] ODD = {
         Integer.MIN_VALUE, Integer.MIN_VALUE + 1, -1000000, -3, -2, -1, 0, 1, 2, 3, 4, 8, 9, 10, 11, 18, 19, 20,
@@ -8,14 +8,17 @@ final class OracleTest {
         Integer.MAX_VALUE - 1, Integer.MAX_VALUE
     };
 
+    private static final int CALLS = 512;
+
     private final Check check;
     private final Random random;
     private final int symbols;
     private final int tokens;
     private final boolean cheap;
-    private ForestHouse house = new ForestHouse();
-    private Oracle oracle = new Oracle();
+    private final ForestHouse house = new ForestHouse();
+    private final Oracle oracle = new Oracle();
     private String run = "";
+    private int calls = 0;
 
     private OracleTest(Check check, long seed) {
         this.check = check;
@@ -39,7 +42,15 @@ final class OracleTest {
 
     private void same(String call, Check.Call want, Check.Call got) {
         run += call + " ";
-        check.same(run, Check.told(want), Check.told(got));
+        ask("", want, got);
+    }
+
+    /** Behind the last call for which the document speaks, nothing is asked. */
+    private void ask(String call, Check.Call want, Check.Call got) {
+        if (calls < CALLS) {
+            calls++;
+            check.same(run + call, Check.told(want), Check.told(got));
+        }
     }
 
     private void production() {
@@ -91,14 +102,19 @@ final class OracleTest {
         return random.nextInt(4) == 0 ? bound - 1 : random.nextInt(bound);
     }
 
+    /** All of a small tree's nodes, some of a large one's. */
     private void nodes() {
-        for (int i = -1; i <= oracle.nodes(); i++) {
-            int at = i;
-            for (int what = 0; what < 4; what++) {
-                int fact = odd(what);
-                check.same(run + "node(" + at + ", " + fact + ")",
-                        Check.told(() -> oracle.node(at, fact)), Check.told(() -> house.node(at, fact)));
-            }
+        int stride = 1 + random.nextInt(1 + oracle.nodes() / 12);
+        for (int i = -1; i < oracle.nodes(); i += stride) {
+            facts(i);
+        }
+        facts(oracle.nodes());
+    }
+
+    private void facts(int i) {
+        for (int what = 0; what < 4; what++) {
+            int fact = odd(what);
+            ask("node(" + i + ", " + fact + ")", () -> oracle.node(i, fact), () -> house.node(i, fact));
         }
     }
 
@@ -106,46 +122,55 @@ final class OracleTest {
         int last = oracle.length() + 1;
         for (int m = -1; m <= last; m++) {
             int at = odd(m);
-            check.same(run + "next(" + at + ")",
-                    Check.told(() -> oracle.next(at)), Check.told(() -> house.next(at)));
+            ask("next(" + at + ")", () -> oracle.next(at), () -> house.next(at));
         }
     }
 
-    private void run(int calls, int longest) {
-        for (int i = 0; i < calls && !check.anyWrong(); i++) {
+    private void clear() {
+        same("clear()", () -> {
+            oracle.clear();
+            return 0;
+        }, () -> {
+            house.clear();
+            return 0;
+        });
+        nodes();
+        nexts();
+    }
+
+    private void run(int longest) {
+        while (calls < CALLS && !check.anyWrong()) {
             int which = random.nextInt(100);
-            if (which < 20) {
+            if (which < 30) {
                 production();
-            } else if (which < 55) {
+            } else if (which < 75) {
                 if (oracle.length() < longest) {
                     put();
                 } else {
                     cut();
                 }
-            } else if (which < 62) {
+            } else if (which < 80) {
                 cut();
-            } else if (which < 85) {
+            } else if (which < 90) {
                 ask();
                 nodes();
-            } else if (which < 99) {
+            } else if (which < 97) {
+                ask();
+            } else if (which < 99 || random.nextInt(3) > 0) {
                 nexts();
             } else {
-                run = "";
-                oracle.clear();
-                house.clear();
-                nodes();
-                nexts();
+                clear();
             }
         }
     }
 
     public static void main(String[] args) {
         Check check = new Check();
-        for (long seed = 0; seed < 400 && !check.anyWrong(); seed++) {
-            new OracleTest(check, seed).run(200, 3 + (int) (seed % 8));
+        for (long seed = 0; seed < 1500 && !check.anyWrong(); seed++) {
+            new OracleTest(check, seed).run(3 + (int) (seed % 8));
         }
-        for (long seed = 1000; seed < 1040 && !check.anyWrong(); seed++) {
-            new OracleTest(check, seed).run(200, 25);
+        for (long seed = 10000; seed < 10150 && !check.anyWrong(); seed++) {
+            new OracleTest(check, seed).run(25);
         }
         check.end();
     }
