@@ -236,6 +236,31 @@ final class Promise08TreeEdgesTest {
             int to = n;
             check.due("a chain over " + n, to, () -> chain.tree(0, 0, to, 0));
         }
+        leaningLeft(check);
+    }
+
+    /** All but the first token's nodes come behind the whole of the way down to it. */
+    private static void leaningLeft(Check check) {
+        for (int items = 2; items <= 3; items++) {
+            ForestHouse x = new ForestHouse();
+            Make.rule(x, 0, 0, items == 2 ? new int[] {0, 1} : new int[] {0, 1, 1});
+            Make.rule(x, 0, 0, 10);
+            Make.rule(x, 0, 0, 10, 10);
+            Make.rule(x, 0, 1, 10);
+            Make.putTimes(x, 24, 0);
+            for (int n = 3; n <= 24; n++) {
+                int to = n;
+                int more = items - 1;
+                boolean one = (n - 1) % more == 0;
+                int levels = one ? (n - 1) / more : (n - 2) / more;
+                int due = 1 + levels * items;
+                check.due(items + " items leaning left over " + n, due, () -> x.tree(0, 0, to, NONE));
+                check.due("its last node ends", to, () -> x.node(due - 1, 2));
+                check.due("and lies within one", 1, () -> x.node(due - 1, 3));
+                check.due("the first token's lies within all", levels, () -> x.node(levels, 3));
+                check.due("the one behind begins behind it", one ? 1 : 2, () -> x.node(levels + 1, 1));
+            }
+        }
     }
 
     private static void indexOutOfBoundsExceptionAsForCount(Check check) {
